@@ -786,11 +786,13 @@ public final class SlipLattice {
         }
 
         boolean hasFace(int x, int y) {
-            return hasSite(x, y) && hasSite(x + 1, y + 1);
+            return x >= 0 && x < width - 1 && x < SIDE - 1 && y >= 0 && y < height - 1 && y < SIDE - 1;
         }
 
+        /** A link's site has one more to the right of it, or above it. */
         boolean hasLink(int x, int y, int rise) {
-            return hasSite(x, y) && (rise == 1 ? hasSite(x, y + 1) : rise == 0 && hasSite(x + 1, y));
+            return (rise == 0 || rise == 1) && x >= 0 && x < width - 1 + rise && x < SIDE
+                    && y >= 0 && y < height - rise && y < SIDE;
         }
 
         int stepOf(int x, int y, int rise, int part) {
@@ -805,7 +807,7 @@ public final class SlipLattice {
         }
 
         private static int placeOf(int x, int y, int rise) {
-            return 2 * numberOf(x, y, rise);
+            return 4 * (SIDE * y + x) + 2 * rise;
         }
 
         /** Links are numbered by their sites, by y, then by x, the one to the right first. */
@@ -874,14 +876,18 @@ public final class SlipLattice {
         }
 
         int vectorOf(int x, int y, int part) {
-            return hasFace(x, y) ? sumRound(x, y, x + 1, y + 1, part) : 0;
+            if (!hasFace(x, y) || (part != 0 && part != 1)) {
+                return 0;
+            }
+            return steps[placeOf(x, y, 0) + part] + steps[placeOf(x + 1, y, 1) + part]
+                    - steps[placeOf(x, y + 1, 0) + part] - steps[placeOf(x, y, 1) + part];
         }
 
         boolean isPlain(int x, int y) {
             return vectorOf(x, y, 0) == 0 && vectorOf(x, y, 1) == 0;
         }
 
-        /** Moves a vector from a face to the next one: GLIDED (or CLIMBED, which is not asked here), CANCELLED, WENT_OUT. */
+        /** Moves a vector from a face to the next one: CANCELLED, WENT_OUT, else GLIDED, even if it climbed. */
         int carry(int x, int y, int dx, int dy, int direction) {
             if (direction < 0 || direction > 3) {
                 return GLIDED;
@@ -1368,7 +1374,7 @@ public final class SlipLattice {
         }
     }
 
-    /** Slipped links that belong together; each link points to a lower one of its wall, the wall's first one to itself. */
+    /** Slipped links that belong together; each points to a lower one of its wall, the wall's first one to itself. */
     private static final class Walls {
         private final int[] lower = new int[Sheet.LINKS];
 
@@ -1540,24 +1546,25 @@ public final class SlipLattice {
         }
 
         private static int costToLeave(Crystal crystal, int i, int price) {
+            int way = crystal.cores.wayOf(i);
             int x = crystal.cores.placeOf(i, 0);
             int y = crystal.cores.placeOf(i, 1);
             int sideways = Math.min(x + 1, crystal.sheet.width - 1 - x);
             int upright = Math.min(y + 1, crystal.sheet.height - 1 - y);
-            return Math.min(sideways * costOfMove(crystal.cores, i, 0, price),
-                    upright * costOfMove(crystal.cores, i, 1, price));
+            return Math.min(sideways * costOfMove(way, 0, price), upright * costOfMove(way, 1, price));
         }
 
         private static int costToMeet(Cores cores, int i, int j, int price) {
             if (!cores.areOpposite(i, j)) {
                 return NONE;
             }
-            return Math.abs(cores.placeOf(i, 0) - cores.placeOf(j, 0)) * costOfMove(cores, i, 0, price)
-                    + Math.abs(cores.placeOf(i, 1) - cores.placeOf(j, 1)) * costOfMove(cores, i, 1, price);
+            int way = cores.wayOf(i);
+            return Math.abs(cores.placeOf(i, 0) - cores.placeOf(j, 0)) * costOfMove(way, 0, price)
+                    + Math.abs(cores.placeOf(i, 1) - cores.placeOf(j, 1)) * costOfMove(way, 1, price);
         }
 
-        private static int costOfMove(Cores cores, int i, int axis, int price) {
-            return cores.wayOf(i) == axis ? 1 : price;
+        private static int costOfMove(int way, int axis, int price) {
+            return way == axis ? 1 : price;
         }
 
         private void fillLeast() {

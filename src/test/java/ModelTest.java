@@ -1,3 +1,6 @@
+import java.util.ArrayList;
+import java.util.Collections;
+import java.util.List;
 import java.util.NoSuchElementException;
 import java.util.Random;
 
@@ -10,8 +13,11 @@ public final class ModelTest {
     private final Model m = new Model();
     private final StringBuilder calls = new StringBuilder();
 
+    private final boolean opposed;
+
     private ModelTest(long seed) {
         random = new Random(seed);
+        opposed = seed % 4 == 1;
     }
 
     public static void main(String[] args) {
@@ -69,46 +75,64 @@ public final class ModelTest {
         return random.nextInt(12) == 0 ? " ".repeat(random.nextInt(3)) : "";
     }
 
+    /** A text mostly without a fault: each face and each setting is told once, but for some slips. */
     private String text(boolean crowded) {
-        StringBuilder text = new StringBuilder(blank());
-        int w = 2 + random.nextInt(8);
-        int h = 2 + random.nextInt(8);
-        if (crowded) {
-            w = Math.max(5, w);
-            h = Math.max(5, h);
-        }
-        text.append("size ").append(w).append(' ').append(h);
-        int pieces = crowded ? 12 : random.nextInt(9);
-        for (int i = 0; i < pieces; i++) {
-            text.append(blank()).append(';').append(blank());
-            int kind = random.nextInt(crowded ? 40 : 12);
-            if (kind == 0) {
-                text.append("hold ").append(random.nextInt(3) == 0 ? random.nextInt(99) : random.nextInt(9));
-            } else if (kind == 1) {
-                text.append("stress ").append(random.nextInt(41) - 20).append(' ').append(random.nextInt(41) - 20);
-            } else if (kind == 2) {
-                text.append("rule ").append(random.nextInt(3));
-            } else {
-                int plain = random.nextInt(4);
-                int most = random.nextInt(3) == 0 ? 2 : 1;
-                int dx = plain == 0 ? 0 : random.nextInt(2 * most + 1) - most;
-                int dy = plain == 1 ? 0 : random.nextInt(2 * most + 1) - most;
-                if (random.nextInt(3) > 0 && dx != 0) {
-                    dy = 0;
-                }
-                if (dx == 0 && dy == 0 && random.nextInt(10) > 0) {
-                    dx = 1;
-                }
-                text.append("core ").append(random.nextInt(w - 1)).append(' ').append(random.nextInt(h - 1))
-                        .append(' ').append(dx).append(' ').append(dy);
+        int least = crowded ? 5 : 2;
+        int w = least + random.nextInt(10 - least);
+        int h = least + random.nextInt(10 - least);
+        List<String> pieces = new ArrayList<>();
+        boolean slips = random.nextInt(5) == 0;
+        for (String setting : settings()) {
+            if (random.nextBoolean()) {
+                pieces.add(setting);
             }
         }
-        if (random.nextInt(6) == 0) {
+        if (slips && random.nextInt(3) == 0) {
+            pieces.add(settings().get(random.nextInt(3)));
+        }
+        int cores = crowded ? 9 + random.nextInt(slips ? 3 : 2) : random.nextInt(8);
+        List<Integer> faces = new ArrayList<>();
+        for (int i = 0; i < (w - 1) * (h - 1); i++) {
+            faces.add(i);
+        }
+        Collections.shuffle(faces, random);
+        for (int i = 0; i < cores && i < faces.size(); i++) {
+            int face = slips && random.nextInt(20) == 0 ? faces.get(0) : faces.get(i);
+            pieces.add("core " + face % (w - 1) + " " + face / (w - 1) + " " + vector(slips));
+        }
+        Collections.shuffle(pieces, random);
+        StringBuilder text = new StringBuilder(blank() + "size " + w + " " + h);
+        for (String piece : pieces) {
+            text.append(blank()).append(';').append(blank()).append(piece).append(blank());
+        }
+        if (slips) {
             String any = " ;-0123459corehldsizu\u00e9\t";
-            int at = random.nextInt(text.length());
-            text.setCharAt(at, any.charAt(random.nextInt(any.length())));
+            text.setCharAt(random.nextInt(text.length()), any.charAt(random.nextInt(any.length())));
         }
         return text.toString();
+    }
+
+    private List<String> settings() {
+        int hold = random.nextInt(3) == 0 ? random.nextInt(100) : random.nextInt(9);
+        return List.of("hold " + hold, "stress " + (random.nextInt(41) - 20) + " " + (random.nextInt(41) - 20),
+                "rule " + random.nextInt(3));
+    }
+
+    private String vector(boolean slips) {
+        if (opposed) {
+            return random.nextInt(3) == 0 ? "-1 0" : random.nextBoolean() ? "1 0" : random.nextBoolean() ? "0 1" : "0 -1";
+        }
+        int most = random.nextInt(3) == 0 ? 2 : 1;
+        int dx = random.nextInt(2 * most + 1) - most;
+        int dy = random.nextInt(2 * most + 1) - most;
+        if (random.nextInt(3) == 0) {
+            dx = random.nextBoolean() ? dx : 0;
+            dy = dx == 0 ? dy : 0;
+        }
+        if (dx == 0 && dy == 0 && !slips) {
+            return random.nextBoolean() ? "1 0" : "0 -1";
+        }
+        return dx + " " + dy;
     }
 
     private void end(int n) {
@@ -143,8 +167,9 @@ public final class ModelTest {
     }
 
     private void act(boolean crowded) {
-        int kind = random.nextInt(crowded ? 14 : 12);
-        if (kind == 0 && random.nextInt(4) == 0) {
+        int kind = random.nextInt(crowded ? 30 : 12);
+        boolean bare = !m.none() && m.cores(m.state).isEmpty();
+        if (kind == 0 && random.nextInt(bare ? 1 : 4) == 0) {
             tell(crowded);
         } else if (kind == 1) {
             int n = random.nextInt(5) == 0 ? pick(1, 40) : pick(1, 3);
@@ -188,7 +213,7 @@ public final class ModelTest {
             a = c.x;
             b = c.y;
         }
-        int part = pick(0, 2);
+        int part = random.nextInt(3) == 0 ? 0 : pick(0, 2);
         int direction = pick(0, 3);
         due("move(" + a + ", " + b + ", " + part + ", " + direction + ")",
                 x.move(a, b, part, direction), m.move(a, b, part, direction));
