@@ -468,7 +468,8 @@ public final class PromiseTest {
         rows("its FACE has another VECTOR by then", x.go(1), 1, x.log(0, 0), 1, x.log(0, 1), 0, x.log(0, 2), 0,
                 x.log(0, 3), 1, x.face(1, 0, 0), -1, x.face(0, 0, 0), 0);
         x = Check.of("size 4 2;core 0 0 1 0;core 1 0 -1 0;hold 0");
-        rows("cancelled ahead of its glide", x.go(1), 1, x.log(0, 0), 1, x.log(0, 1), 1, x.log(0, 2), 0, x.log(0, 3), 0);
+        rows("cancelled ahead of its glide", x.go(1), 1, x.log(0, 0), 1, x.log(0, 1), 1, x.log(0, 2), 0, x.log(0, 3),
+                0);
         x = Check.of("size 5 2;core 0 0 1 0;core 2 0 -2 0;hold 0");
         rows("both go to the same FACE", x.go(1), 2, x.log(0, 1), 0, x.log(0, 3), 1, x.face(1, 0, 0), -1);
         x = Check.of("size 4 4;core 0 0 1 0;core 1 1 -1 0;rule 1");
@@ -587,7 +588,8 @@ public final class PromiseTest {
     // Promise 21
     private static void rid() {
         SlipLattice x = Check.of("size 6 6;core 1 2 1 0;core 3 2 -1 0");
-        rows("they meet", x.rid(1), 2, x.rid(9), 2, x.rid(0), NONE, x.rid(10), NONE, x.rid(FAR), NONE, x.rid(DEEP), NONE);
+        rows("they meet", x.rid(1), 2, x.rid(9), 2, x.rid(0), NONE, x.rid(10), NONE, x.rid(FAR), NONE, x.rid(DEEP),
+                NONE);
         x = Check.of("size 6 6;core 1 2 0 1");
         rows("a climb costs the price", x.rid(1), 2, x.rid(2), 3, x.rid(9), 3);
         x = Check.of("size 6 6;core 1 2 1 1");
@@ -627,7 +629,8 @@ public final class PromiseTest {
         rows("none", x.ahead(0, 0), 2, x.ahead(0, 1), 0, x.ahead(0, 2), 0, x.ahead(0, 3), 0, x.ahead(0, 4), 100,
                 x.ahead(0, 5), 3);
         rows("one", x.ahead(1, 0), 2, x.ahead(1, 1), 1, x.ahead(1, 3), 0, x.ahead(1, 5), 4);
-        rows("three and more", x.ahead(3, 0), 1, x.ahead(3, 1), 3, x.ahead(3, 2), 0, x.ahead(3, 3), 1, x.ahead(3, 4), 50,
+        rows("three and more", x.ahead(3, 0), 1, x.ahead(3, 1), 3, x.ahead(3, 2), 0, x.ahead(3, 3), 1, x.ahead(3, 4),
+                50,
                 x.ahead(3, 5), 6, x.ahead(40, 1), 3);
         rows("nothing is changed", x.rule(6), 2, x.rule(7), 3, x.rule(8), 0, x.count(1), 0, x.count(2), 0);
         rows("out of bounds", x.ahead(-1, 0), HIDDEN, x.ahead(41, 0), HIDDEN, x.ahead(0, 6), HIDDEN,
@@ -653,7 +656,8 @@ public final class PromiseTest {
                 x.layer(1, 1), 0, x.layer(1, 2), 1, x.layer(1, 3), 3, x.layer(2, 0), 3, x.layer(2, 3), 0);
         x.shift(0, 2, 2, 5);
         rows("its left end is shifted", x.layer(2, 0), 1, x.layer(2, 1), -5, x.layer(2, 2), 1, x.layer(2, 3), 0);
-        rows("no such ones", x.layer(3, 0), HIDDEN, x.layer(-1, 0), HIDDEN, x.layer(0, 4), HIDDEN, x.layer(0, -1), HIDDEN,
+        rows("no such ones", x.layer(3, 0), HIDDEN, x.layer(-1, 0), HIDDEN, x.layer(0, 4), HIDDEN, x.layer(0, -1),
+                HIDDEN,
                 x.layer(FAR, 0), HIDDEN, x.layer(DEEP, 0), HIDDEN);
     }
 
@@ -731,7 +735,8 @@ public final class PromiseTest {
         x.undo();
         due("an image ahead of 40 rounds more", x.image(), 3);
         x.go(40);
-        rows("the LOG, too", x.log(0, 3), 0, x.count(2), 40, x.back(), 3, x.count(2), 3, x.log(0, 0), 1, x.log(0, 3), 1);
+        rows("the LOG, too", x.log(0, 3), 0, x.count(2), 40, x.back(), 3, x.count(2), 3, x.log(0, 0), 1, x.log(0, 3),
+                1);
     }
 
     // Promise 31
