@@ -30,6 +30,7 @@ public final class BoundTest {
         link();
         linksOfCoresTold();
         box();
+        boxesOfShifted();
         halved();
         halves();
         pathSites();
@@ -41,12 +42,14 @@ public final class BoundTest {
         moveMeets();
         moveRefused();
         moveTwelve();
+        moveTwelveEachWay();
         goes();
         holdOfRound();
         outAtEachEdge();
         faceWithAnotherVector();
         log();
         logOfForty();
+        logOfEachRow();
         shift();
         shiftRefused();
         shake();
@@ -54,6 +57,7 @@ public final class BoundTest {
         drawsWithoutWay();
         set();
         wall();
+        wallsAtTheRim();
         rid();
         meets();
         ahead();
@@ -63,12 +67,16 @@ public final class BoundTest {
         stills();
         undoOfTwenty();
         undoOfEach();
+        linksOfEachSite();
         image();
         back();
         status();
         most();
         energyIsCut();
         count();
+        tallOnes();
+        wideOnes();
+        pathsOverShifted();
         lastCall();
         Check.finish("BoundTest");
     }
@@ -248,6 +256,32 @@ public final class BoundTest {
                 + " box(0, 0, 9, 8, 3) HIDDEN");
     }
 
+    /** By no shift a sum round a box changes, wherever the slipped links stand. */
+    private static void boxesOfShifted() {
+        SlipLattice x = Check.of("size 4 4;core 0 0 1 2;core 2 1 -2 1;core 1 2 0 1");
+        int[][] cores = {{0, 0, 1, 2}, {2, 1, -2, 1}, {1, 2, 0, 1}};
+        for (int i = 0; i < 16; i++) {
+            x.shift(i % 4, i / 4, i % 7 - 3, 1 + i % 5);
+        }
+        for (int i = 0; i < 36; i++) {
+            int x0 = new int[] {0, 0, 0, 1, 1, 2}[i % 6];
+            int x1 = new int[] {1, 2, 3, 2, 3, 3}[i % 6];
+            int y0 = new int[] {0, 0, 0, 1, 1, 2}[i / 6];
+            int y1 = new int[] {1, 2, 3, 2, 3, 3}[i / 6];
+            int[] sum = new int[3];
+            for (int[] c : cores) {
+                if (c[0] >= x0 && c[0] < x1 && c[1] >= y0 && c[1] < y1) {
+                    sum[0] += c[2];
+                    sum[1] += c[3];
+                    sum[2]++;
+                }
+            }
+            for (int what = 0; what < 3; what++) {
+                Check.due("box " + i + ", " + what, x.box(x0, y0, x1, y1, what), sum[what]);
+            }
+        }
+    }
+
     // Promise 11
     private static void halved() {
         says("halved", "size 4 3;core 0 0 1 0", "halved(NONE, 0) 3 halved(NONE, FAR) 3 halved(NONE, -9) 3"
@@ -418,6 +452,21 @@ public final class BoundTest {
                 + " box(0, 0, 8, 8, 2) 12 meets(1, 11) 11 meets(1, 12) NONE");
     }
 
+    private static void moveTwelveEachWay() {
+        SlipLattice x = says("12 CORES", TEN, "move(2, 0, 1, 0) 0 move(6, 2, 1, 2) 0 rule(6) 12");
+        Script.goOn("no room on any side", x, "move(0, 2, 1, 0) NONE move(2, 4, 1, 1) NONE move(2, 2, 1, 2) NONE"
+                + " move(2, 4, 2, 3) NONE status(3) 4 count(1) 2");
+        Script.goOn("one on the left", x, "move(4, 0, 2, 0) NONE move(4, 0, 2, 2) 1 rule(6) 12 face(3, 0, 1) 1"
+                + " undo() 2");
+        Script.goOn("one on the right", x, "move(4, 2, 2, 2) NONE move(4, 2, 2, 0) 1 rule(6) 12 face(5, 2, 1) 1"
+                + " undo() 2");
+        x = says("12 CORES", TEN, "move(0, 0, 1, 1) 1 move(2, 4, 1, 3) 1 rule(6) 12");
+        Script.goOn("one below", x, "move(0, 2, 1, 1) NONE move(0, 2, 1, 3) 1 rule(6) 12 face(0, 1, 0) 2 undo() 2");
+        Script.goOn("one above", x, "move(2, 2, 1, 3) NONE move(2, 2, 1, 1) 1 rule(6) 12 face(2, 3, 0) 2 undo() 2");
+        Script.goOn("out at the left, below", x, "move(0, 2, 1, 2) 3 rule(6) 12 move(4, 0, 1, 3) 3 rule(6) 12"
+                + " status(3) 2");
+    }
+
     // Promise 15
     private static void goes() {
         says("1 .. 40", RESTLESS, "go(0) NONE go(-1) NONE go(41) NONE go(FAR) NONE go(DEEP) NONE status(2) 5 rule(8) 0"
@@ -488,6 +537,21 @@ public final class BoundTest {
         says("80 and 81", RESTLESS, "go(40) 80 go(40) 80 count(2) 40 log(0, 0) 2 log(39, 0) 2 log(40, 0) NONE"
                 + " set(2, 99) 10 go(1) 0 log(0, 0) 0 log(1, 0) 2 log(39, 0) 2 go(38) 0 log(39, 0) 2 log(38, 0) 0"
                 + " go(1) 0 log(39, 0) 0");
+    }
+
+    /** Forty rounds that glide, then others in each of their places: all come back by undo and by back. */
+    private static void logOfEachRow() {
+        for (int from = 40; from <= 60; from += 20) {
+            SlipLattice x = Check.of(RESTLESS);
+            x.go(40);
+            x.go(from - 20);
+            Script.goOn("rounds without a glide", x, "set(2, 99) 10 go(20) 0 log(19, 0) 0 log(20, 0) 2 log(39, 0) 2");
+            undoAll(x, 20);
+            Script.goOn("undone", x, forEach(0, 39, "log(#, 0) 2 log(#, 3) 2") + "log(40, 0) NONE");
+        }
+        SlipLattice x = says("an image", RESTLESS, "go(40) 80 go(7) 14 image() 47 set(2, 99) 10 go(40) 0 log(0, 0) 0"
+                + " log(39, 0) 0");
+        Script.goOn("back", x, "back() 47" + forEach(0, 39, " log(#, 0) 2 log(#, 3) 2") + "log(40, 0) NONE rule(8) 47");
     }
 
     // Promise 17
@@ -609,6 +673,18 @@ public final class BoundTest {
         says("a CORE beside two", "size 4 4;core 1 1 1 0", "rule(12) 1 wall(0, 0) 2 wall(0, 4) 1");
     }
 
+    /** The last link of a row and the first one of the next row are far apart. */
+    private static void wallsAtTheRim() {
+        says("right and left", "size 9 9;core 0 1 1 0", "shift(8, 0, 1, 1) 3 rule(12) 2 wall(0, 0) 2 wall(0, 1) 7"
+                + " wall(0, 2) 0 wall(0, 3) 0 wall(0, 4) 0 wall(1, 0) 1 wall(1, 1) 0 wall(1, 2) 1 wall(1, 3) 1"
+                + " wall(1, 4) 1");
+        says("above and below", "size 9 9", "shift(0, 0, 1, 1) 2 shift(0, 8, 1, 1) 4 shift(8, 0, 1, 1) 6"
+                + " shift(8, 8, 1, 1) 8"
+                + " rule(12) 4 wall(0, 0) 2 wall(1, 0) 2 wall(2, 0) 2 wall(3, 0) 2 wall(1, 1) 7 wall(1, 2) 0"
+                + " wall(2, 1) 0"
+                + " wall(2, 2) 7 wall(2, 3) 1 wall(3, 1) 8 wall(3, 2) 7 wall(3, 3) 1 wall(4, 0) NONE");
+    }
+
     // Promise 21
     private static void rid() {
         says("1 .. 9", "size 9 9;core 4 3 1 0", "rid(0) NONE rid(-1) NONE rid(10) NONE rid(FAR) NONE rid(DEEP) NONE"
@@ -641,6 +717,8 @@ public final class BoundTest {
                 + " meets(1, 0) 2 meets(1, 1) 1 meets(1, 2) 0");
         says("as dear: the lower one first", "size 9 9;core 3 3 1 1;core 4 3 -1 -1;core 3 4 -1 -1", "rid(1) 5"
                 + " meets(1, 0) 1 meets(1, 1) 0 meets(1, 2) 2");
+        says("four in a row", "size 9 9;core 3 4 1 0;core 4 4 -1 0;core 5 4 1 0;core 6 4 -1 0",
+                "rid(9) 2 meets(9, 0) 1 meets(9, 1) 0 meets(9, 2) 3 meets(9, 3) 2");
         says("alike ones do not meet", "size 9 9;core 3 3 1 0;core 4 3 1 0", "rid(1) 8 meets(1, 0) 0 meets(1, 1) 1");
         says("half opposites do not meet", "size 9 9;core 3 3 1 1;core 4 3 -1 1", "rid(1) 8 meets(1, 0) 0"
                 + " meets(1, 1) 1");
@@ -719,6 +797,7 @@ public final class BoundTest {
         says("the nearer one of two", "size 9 9;core 1 1 1 0;core 3 1 1 0;core 6 1 1 0", "line(0, 0) 1 line(0, 1) 2"
                 + " line(2, 2) 1 line(2, 3) 3 line(1, 0) 2 line(1, 1) 3 line(1, 2) 0 line(1, 3) 2");
         says("without CORES", EMPTY, "line(0, 0) HIDDEN");
+        says("one that went", LEAST, "line(0, 0) NONE move(0, 0, 0, 1) 3 line(0, 0) HIDDEN");
     }
 
     // Promise 27
@@ -767,6 +846,20 @@ public final class BoundTest {
                 + " set(9, 9) HIDDEN count(1) 0 undo() NONE");
         says("set, image, path, ahead are none", LEAST, "set(0, 1) 0 image() 0 path(0, 0) 1 ahead(9, 0) 1 rests() 0"
                 + " rid(1) 1 count(1) 0 undo() NONE");
+    }
+
+    private static void linksOfEachSite() {
+        SlipLattice x = Check.of("size 9 9");
+        for (int i = 0; i < 81; i++) {
+            x.shift(i % 9, i / 9, 3, -2);
+            x.undo();
+            Check.due("links behind an undone shift of " + i % 9 + ", " + i / 9, x.rule(7), 0);
+        }
+        Check.due("image", x.image(), 0);
+        for (int i = 0; i < 81; i++) {
+            x.shift(i % 9, i / 9, 1 + i % 8, -1 - i % 9);
+        }
+        Script.goOn("all links slipped, and back", x, "rule(7) 144 back() 0 rule(7) 0");
     }
 
     // Promise 29
@@ -822,6 +915,9 @@ public final class BoundTest {
         says("the nearest two", "size 9 9;core 0 0 1 1;core 3 0 1 1;core 7 5 1 1;core 7 7 1 1", "most(3) 35 most(4) 4");
         says("of several the lowest", "size 9 9;core 0 0 1 1;core 2 0 1 1;core 4 0 1 1;core 2 2 1 1", "most(3) 1"
                 + " most(4) 4 move(0, 0, 0, 1) 1 most(3) 1 most(4) 4");
+        says("late ones of twelve", TEN, "move(2, 4, 1, 0) 0 move(0, 4, 0, 1) 1 move(3, 4, 0, 1) 1"
+                + " move(0, 5, 1, 1) 1"
+                + " rule(6) 12 most(3) 155 most(4) 1 move(2, 4, 0, 1) 0 most(3) 139 most(4) 1");
         says("by squares: 3 and 4 are as far as 5", "size 9 9;core 0 0 1 1;core 3 4 1 1;core 0 5 1 1", "most(3) 18"
                 + " most(4) 10");
         says("the greatest number, without sign", "size 9 9;core 0 0 1 0;core 3 3 1 -2", "most(6) 2 move(3, 3, 2, 0) 1"
@@ -846,6 +942,55 @@ public final class BoundTest {
         says("count", LEAST, "count(-1) NONE count(0) 0 count(1) 0 count(2) 0 count(3) NONE count(FAR) NONE"
                 + " count(DEEP) NONE tape \"abc\" count(0) 3 shift(0, 0, 1, 1) 2 count(1) 1 go(2) 0 count(1) 3"
                 + " count(2) 2 undo() 2 count(1) 2 count(2) 1");
+    }
+
+    /** W and H are bounds of their own: what stands above W, or beyond H. */
+    private static void tallOnes() {
+        String tall = "size 2 9;core 0 7 0 1;stress 0 20";
+        says("rounds ahead", tall, "ahead(0, 0) 1 ahead(0, 4) 50 ahead(0, 5) 1 ahead(1, 3) 1 ahead(1, 0) 0"
+                + " ahead(1, 5) 2"
+                + " rests() 1 go(1) 1 log(0, 2) 1");
+        says("SLIPPED LINKS", tall, "rule(7) 1 shift(1, 8, 1, 1) 3 rule(7) 3 rule(12) 1 wall(0, 0) 3 most(5) 3"
+                + " shift(0, 0, 1, 1) 5 rule(12) 2 wall(1, 2) 7 layer(8, 2) 1 layer(7, 3) 2");
+        says("its edges", tall, "rid(9) 1 rid(1) 1 move(0, 7, 0, 3) 0 move(0, 6, 0, 3) 0 move(0, 5, 0, 3) 0 rid(1) 1"
+                + " rid(9) 4");
+        says("halved", "size 3 9;core 1 7 1 0", "halved(NONE, 0) 5 halved(1, 1) 4 halved(2, 1) 6 halved(3, 0) 1"
+                + " halved(3, 1) 6"
+                + " halved(4, 0) 1 halved(4, 1) 7 halved(4, 2) 2 halved(4, 3) 8");
+        says("halved, with two", "size 3 9;core 1 7 0 1;core 0 6 1 0", "halved(2, 1) 6 halved(3, 0) 0 halved(3, 2) 1"
+                + " halved(4, 0) 0 halved(4, 1) 6");
+        String rows = "halved(NONE, 0) 5 halved(2, 1) 6 halved(3, 0) 1 halved(3, 2) 2 halved(4, 0) 1 halved(4, 1) 7";
+        says("a pair that was left below", "size 3 9;core 0 0 0 1;core 1 0 0 -1;core 1 7 0 1", rows);
+        says("a pair that was left below", "size 3 9;core 0 0 1 0;core 1 0 -1 0;core 1 7 1 0", rows);
+    }
+
+    private static void wideOnes() {
+        String wide = "size 9 2;core 7 0 1 0;stress 20 0";
+        says("rounds ahead", wide, "ahead(0, 0) 1 ahead(0, 5) 8 ahead(1, 3) 1 ahead(1, 5) 9 rests() 1");
+        says("its edges", "size 9 4;core 4 2 0 1", "rid(9) 1 rid(1) 1 move(4, 2, 0, 3) 0 rid(9) 2");
+        says("halved", "size 9 3;core 7 1 0 1", "halved(NONE, 0) 5 halved(1, 0) 4 halved(2, 0) 6 halved(3, 0) 7"
+                + " halved(3, 1) 0"
+                + " halved(4, 0) 7 halved(4, 1) 1 halved(4, 2) 8 halved(4, 3) 2");
+        says("halved, with two", "size 9 3;core 5 1 0 1;core 4 0 1 0", "halved(1, 0) 4 halved(2, 0) 4 halved(2, 2) 6"
+                + " halved(3, 2) 5 halved(4, 0) 4 halved(4, 1) 0");
+    }
+
+    /** Each letter from each of some sites tells its own link's step. */
+    private static void pathsOverShifted() {
+        SlipLattice x = says("shifted", "size 4 3", "shift(1, 0, 1, 2) 3 shift(2, 1, 3, -4) 7 shift(0, 2, -5, 6) 9");
+        Script.goOn("to the right", x, "tape \"r\" path(2, 0) 0 gone(0) 1 gone(1) 0 tape \"r\" path(0, 0) 0 gone(0) 2"
+                + " gone(1) 2"
+                + " tape \"r\" path(1, 0) 0 gone(0) 0 gone(1) -2 tape \"r\" path(1, 1) 0 gone(0) 4 gone(1) -4"
+                + " tape \"r\" path(2, 1) 0 gone(0) -2 gone(1) 4 tape \"r\" path(0, 2) 0 gone(0) 6 gone(1) -6");
+        Script.goOn("to the left", x, "tape \"l\" path(3, 0) 0 gone(0) -1 gone(1) 0 tape \"l\" path(3, 1) 0 gone(0) 2"
+                + " gone(1) -4"
+                + " tape \"l\" path(2, 1) 0 gone(0) -4 gone(1) 4 tape \"l\" path(1, 2) 0 gone(0) -6 gone(1) 6");
+        Script.goOn("up", x, "tape \"u\" path(2, 0) 0 gone(0) 3 gone(1) -3 tape \"u\" path(1, 0) 0 gone(0) -1"
+                + " gone(1) -1"
+                + " tape \"u\" path(2, 1) 0 gone(0) -3 gone(1) 5 tape \"u\" path(0, 1) 0 gone(0) -5 gone(1) 7");
+        Script.goOn("down", x, "tape \"d\" path(2, 1) 0 gone(0) -3 gone(1) 3 tape \"d\" path(1, 1) 0 gone(0) 1"
+                + " gone(1) 1"
+                + " tape \"d\" path(2, 2) 0 gone(0) 3 gone(1) -5 tape \"d\" path(0, 2) 0 gone(0) 5 gone(1) -7");
     }
 
     /** An object is used for at most 512 calls: the dearest ones, and the last one is answered as the first one. */
