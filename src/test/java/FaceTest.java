@@ -1,13 +1,17 @@
 import java.io.IOException;
+import java.lang.reflect.Field;
 import java.lang.reflect.Method;
 import java.lang.reflect.Modifier;
 import java.nio.charset.StandardCharsets;
 import java.nio.file.Files;
 import java.nio.file.Path;
+import java.util.ArrayList;
 import java.util.Arrays;
 import java.util.List;
 import java.util.Set;
 import java.util.TreeSet;
+import java.util.regex.Matcher;
+import java.util.regex.Pattern;
 
 /** The public face is the document's, and the source keeps to what LANGUAGE.md leaves, as far as words show it. */
 public final class FaceTest {
@@ -20,6 +24,8 @@ public final class FaceTest {
             "line(int, int) int", "stills() int", "undo() int", "image() int", "back() int", "status(int) int",
             "most(int) int", "count(int) int");
 
+    private static final Pattern METHOD = Pattern.compile("( {4}| {8})(?! |}|class|for |if |while |switch )[^=;]*\\(.*\\{");
+
     private FaceTest() {
     }
 
@@ -27,6 +33,8 @@ public final class FaceTest {
         methods();
         others();
         words();
+        shapes();
+        lengths();
         Check.finish("FaceTest");
     }
 
@@ -70,5 +78,44 @@ public final class FaceTest {
             Check.due("the source has " + word, source.contains(word), false);
         }
         Check.due("signs are 1 to 127", source.chars().allMatch(c -> c < 128), true);
+    }
+
+    /** Rules 5 and 11: static fields are final; a method takes seven parameters at most, a class has some twenty fields. */
+    private static void shapes() {
+        List<Class<?>> all = new ArrayList<>(List.of(SlipLattice.class.getDeclaredClasses()));
+        all.add(SlipLattice.class);
+        for (Class<?> c : all) {
+            for (Method m : c.getDeclaredMethods()) {
+                Check.due("parameters of " + m, m.getParameterCount() <= 7, true);
+            }
+            int fields = 0;
+            for (Field f : c.getDeclaredFields()) {
+                boolean isStatic = Modifier.isStatic(f.getModifiers());
+                Check.due(f + " is final, if static", !isStatic || Modifier.isFinal(f.getModifiers()), true);
+                fields += isStatic ? 0 : 1;
+            }
+            Check.due("fields of " + c, fields <= 20, true);
+        }
+    }
+
+    /** Rule 11: methods stay short. Members of a class inside stand eight blanks in, those of the class itself four. */
+    private static void lengths() throws IOException {
+        int begun = 0;
+        int line = 0;
+        int found = 0;
+        String end = "";
+        for (String text : Files.readAllLines(Path.of("src/main/java/SlipLattice.java"), StandardCharsets.UTF_8)) {
+            line++;
+            Matcher begins = METHOD.matcher(text);
+            if (begins.matches()) {
+                begun = line;
+                end = begins.group(1) + "}";
+                found++;
+            } else if (begun > 0 && text.equals(end)) {
+                Check.due("the method of line " + begun + " is short", line - begun < 60, true);
+                begun = 0;
+            }
+        }
+        Check.due("methods were found", found > 100, true);
     }
 }
